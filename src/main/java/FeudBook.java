@@ -296,21 +296,21 @@ public final class FeudBook {
     public int passDays(int days) throws IllegalArgumentException {
         needDays(days);
         int before = now.carriedOut;
-        letPass(now, days);
+        judge.letPass(now, days);
         return now.carriedOut - before;
     }
 
     public int standingAfter(int days) throws IllegalArgumentException {
         needDays(days);
         trial.copyFrom(now);
-        letPass(trial, days);
+        judge.letPass(trial, days);
         return Integer.bitCount(trial.standing);
     }
 
     public int peacesAfter(int days) throws IllegalArgumentException {
         needDays(days);
         trial.copyFrom(now);
-        letPass(trial, days);
+        judge.letPass(trial, days);
         return land.count(trial.standing);
     }
 
@@ -320,7 +320,7 @@ public final class FeudBook {
             if (land.count(trial.standing) > 0) {
                 return days;
             }
-            judge.passDay(trial);
+            judge.letPass(trial, 1);
         }
         return land.count(trial.standing) > 0 ? MAX_DAYS : -1;
     }
@@ -410,14 +410,8 @@ public final class FeudBook {
     private void begin() {
         book.copyFrom(draft);
         web.forget();
-        land.forget();
+        land.prepare();
         now.begin(book.statements);
-    }
-
-    private void letPass(Course course, int days) {
-        for (int n = 0; n < days; n++) {
-            judge.passDay(course);
-        }
     }
 
     private void needStatement(int statement) {
@@ -663,7 +657,11 @@ public final class FeudBook {
             at = 0;
             error = 0;
             draft.clear();
-            if (!readLines()) {
+            boolean right = true;
+            for (int n = 0; n < MAX_TOKENS && right && !isNext(END); n++) {
+                right = readLine() && take(';');
+            }
+            if (!right || !isNext(END)) {
                 error = NOT_ALLOWED;
                 errorToken = at;
             }
@@ -679,7 +677,7 @@ public final class FeudBook {
         }
 
         private boolean take(int kind) {
-            if (!isNext(kind)) {
+            if (tokens.kindAt(at) != kind) {
                 return false;
             }
             at++;
@@ -705,15 +703,6 @@ public final class FeudBook {
                 }
             }
             return -1;
-        }
-
-        private boolean readLines() {
-            for (int n = 0; n < MAX_TOKENS && !isNext(END); n++) {
-                if (!readLine() || !take(';')) {
-                    return false;
-                }
-            }
-            return isNext(END);
         }
 
         private boolean readLine() {
@@ -795,7 +784,7 @@ public final class FeudBook {
 
         /** Reads a name of a list: its number, 0 if it is not told ahead, or -1 if it is no name. */
         private int readKnownName(long[] names, int count) {
-            if (!isNext(NAME)) {
+            if (tokens.kindAt(at) != NAME) {
                 return -1;
             }
             int number = find(names, count, tokens.valueAt(at));
@@ -804,10 +793,6 @@ public final class FeudBook {
             }
             at++;
             return Math.max(number, 0);
-        }
-
-        private int readKnownStatement() {
-            return readKnownName(statementNames, draft.statements);
         }
 
         /** Reads a claim: its number, or -1 if there is none. */
@@ -828,7 +813,7 @@ public final class FeudBook {
                 note(TOO_MANY);
             }
             at++;
-            int statement = readKnownStatement();
+            int statement = readKnownName(statementNames, draft.statements);
             if (statement < 0) {
                 return false;
             }
@@ -877,39 +862,24 @@ public final class FeudBook {
                 case '[':
                     return takeDeeper('[', depth) && readTest(depth + 1) && take(']');
                 case POSSIBLE:
-                    return readPossible();
+                    at++;
+                    int possible = readClaim();
+                    draft.addCode(POSSIBLE, possible, 0);
+                    return possible >= 0;
                 case STANDS:
-                    return readStands();
+                    at++;
+                    int statement = readKnownName(statementNames, draft.statements);
+                    draft.addCode(STANDS, statement, 0);
+                    return statement >= 0;
                 case FOLLOWS:
-                    return readFollows();
+                    at++;
+                    int claim = readClaim();
+                    int from = claim >= 0 && take(FROM) ? readClaim() : -1;
+                    draft.addCode(FOLLOWS, claim, from);
+                    return from >= 0;
                 default:
                     return readComparison(depth);
             }
-        }
-
-        private boolean readPossible() {
-            at++;
-            int claim = readClaim();
-            draft.addCode(POSSIBLE, claim, 0);
-            return claim >= 0;
-        }
-
-        private boolean readStands() {
-            at++;
-            int statement = readKnownStatement();
-            draft.addCode(STANDS, statement, 0);
-            return statement >= 0;
-        }
-
-        private boolean readFollows() {
-            at++;
-            int claim = readClaim();
-            if (claim < 0 || !take(FROM)) {
-                return false;
-            }
-            int from = readClaim();
-            draft.addCode(FOLLOWS, claim, from);
-            return from >= 0;
         }
 
         private boolean readComparison(int depth) {
@@ -1000,6 +970,9 @@ public final class FeudBook {
         private final int[] kinds = new int[MAX_STATEMENTS];
         private final int[] firsts = new int[MAX_STATEMENTS];
         private final int[] seconds = new int[MAX_STATEMENTS];
+        /** Of each statement, the two claims of which it says that one holds. */
+        private final int[] lefts = new int[MAX_STATEMENTS];
+        private final int[] rights = new int[MAX_STATEMENTS];
         private int orders;
         /** Of each order: 1 if it renews, 0 if it breaks. */
         private final int[] verbs = new int[MAX_ORDERS];
@@ -1028,6 +1001,8 @@ public final class FeudBook {
             copy(other.kinds, kinds);
             copy(other.firsts, firsts);
             copy(other.seconds, seconds);
+            copy(other.lefts, lefts);
+            copy(other.rights, rights);
             copy(other.verbs, verbs);
             copy(other.targets, targets);
             copy(other.codeStarts, codeStarts);
@@ -1052,6 +1027,8 @@ public final class FeudBook {
                 kinds[statements] = kind;
                 firsts[statements] = first;
                 seconds[statements] = second;
+                lefts[statements] = kind == PROMISE_KIND || kind == FEUD_KIND ? first ^ 1 : first;
+                rights[statements] = kind == FEUD_KIND ? second ^ 1 : second;
                 statements++;
             }
         }
@@ -1088,16 +1065,12 @@ public final class FeudBook {
             return entry(seconds, statement);
         }
 
-        /** The first of the two claims of which a statement says that one holds. */
         int left(int statement) {
-            int kind = kind(statement);
-            boolean turned = kind == PROMISE_KIND || kind == FEUD_KIND;
-            return turned ? first(statement) ^ 1 : first(statement);
+            return entry(lefts, statement);
         }
 
-        /** The second of the two claims of which a statement says that one holds. */
         int right(int statement) {
-            return kind(statement) == FEUD_KIND ? second(statement) ^ 1 : second(statement);
+            return entry(rights, statement);
         }
 
         boolean renews(int order) {
@@ -1258,8 +1231,10 @@ public final class FeudBook {
         private final Book book;
         private final long[] words = new long[WORDS];
         private final long[] narrowed = new long[WORDS];
+        /** The words of each statement, one behind the other: the numbers in which it holds. */
+        private final long[] rows = new long[MAX_STATEMENTS * WORDS];
         /** How many words are in use: as many as the families need. */
-        private int used;
+        private int used = 1;
         private int total;
         private int seen = -1;
 
@@ -1267,8 +1242,15 @@ public final class FeudBook {
             this.book = book;
         }
 
-        void forget() {
+        /** Makes the rows for a book that is new. */
+        void prepare() {
             seen = -1;
+            used = 1 << Math.max(book.families - FAMILIES_IN_WORD, 0);
+            for (int place = 0; place < rows.length; place++) {
+                int statement = place / WORDS;
+                int w = place % WORDS;
+                rows[place] = holds(book.left(statement), w) | holds(book.right(statement), w);
+            }
         }
 
         int count(int standing) {
@@ -1319,10 +1301,10 @@ public final class FeudBook {
             long twoAtMost = none;
             for (int statement = 0; statement < book.statements; statement++) {
                 if (has(standing, statement)) {
-                    long either = either(statement, w);
-                    twoAtMost = (twoAtMost & either) | oneAtMost;
-                    oneAtMost = (oneAtMost & either) | none;
-                    none &= either;
+                    long row = row(statement, w);
+                    twoAtMost = (twoAtMost & row) | oneAtMost;
+                    oneAtMost = (oneAtMost & row) | none;
+                    none &= row;
                 }
             }
             if (none != 0) {
@@ -1354,27 +1336,23 @@ public final class FeudBook {
                 return;
             }
             seen = standing;
-            used = 1 << Math.max(book.families - FAMILIES_IN_WORD, 0);
             total = 0;
             for (int w = 0; w < used && w < words.length; w++) {
-                words[w] = peacesOf(w, standing);
-                total += Long.bitCount(words[w]);
-            }
-        }
-
-        private long peacesOf(int w, int standing) {
-            long rest = allOf(w);
-            for (int statement = 0; statement < book.statements; statement++) {
-                if (has(standing, statement)) {
-                    rest &= either(statement, w);
+                long rest = allOf(w);
+                for (int statement = 0; statement < book.statements; statement++) {
+                    if (has(standing, statement)) {
+                        rest &= row(statement, w);
+                    }
                 }
+                words[w] = rest;
+                total += Long.bitCount(rest);
             }
-            return rest;
         }
 
         /** The numbers of a word in which a statement holds. */
-        private long either(int statement, int w) {
-            return holds(book.left(statement), w) | holds(book.right(statement), w);
+        private long row(int statement, int w) {
+            int place = statement * WORDS + w;
+            return place >= 0 && place < rows.length ? rows[place] : 0L;
         }
 
         /** The numbers of a used word that tell of no more families than there are. */
@@ -1439,13 +1417,15 @@ public final class FeudBook {
             this.land = land;
         }
 
-        void passDay(Course course) {
-            for (int order = 0; order < book.orders; order++) {
-                if (isDue(order, course)) {
-                    course.change(book.target(order), book.renews(order));
+        void letPass(Course course, int days) {
+            for (int n = 0; n < days; n++) {
+                for (int order = 0; order < book.orders; order++) {
+                    if (isDue(order, course)) {
+                        course.change(book.target(order), book.renews(order));
+                    }
                 }
+                course.day++;
             }
-            course.day++;
         }
 
         private boolean isDue(int order, Course course) {
