@@ -686,7 +686,11 @@ public final class FeudBook {
 
         /** Takes what makes the depth greater, if it may be greater. */
         private boolean takeDeeper(int kind, int depth) {
-            return depth < MAX_DEPTH && take(kind);
+            if (depth >= MAX_DEPTH || tokens.kindAt(at) != kind) {
+                return false;
+            }
+            at++;
+            return true;
         }
 
         private void note(int number) {
@@ -878,25 +882,25 @@ public final class FeudBook {
                     draft.addCode(FOLLOWS, claim, from);
                     return from >= 0;
                 default:
-                    return readComparison(depth);
+                    if (!readSum(depth)) {
+                        return false;
+                    }
+                    int sign = tokens.kindAt(at);
+                    if (!isComparison(sign)) {
+                        return false;
+                    }
+                    at++;
+                    if (!readSum(depth)) {
+                        return false;
+                    }
+                    draft.addCode(sign, 0, 0);
+                    return true;
             }
         }
 
-        private boolean readComparison(int depth) {
-            if (!readSum(depth)) {
-                return false;
-            }
-            int sign = tokens.kindAt(at);
-            if (sign != '<' && sign != '>' && sign != '='
-                    && sign != LESS_OR_EQUAL && sign != GREATER_OR_EQUAL) {
-                return false;
-            }
-            at++;
-            if (!readSum(depth)) {
-                return false;
-            }
-            draft.addCode(sign, 0, 0);
-            return true;
+        private static boolean isComparison(int kind) {
+            return kind == '<' || kind == '>' || kind == '='
+                    || kind == LESS_OR_EQUAL || kind == GREATER_OR_EQUAL;
         }
 
         private boolean readSum(int depth) {
