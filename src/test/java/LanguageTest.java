@@ -117,6 +117,10 @@ public final class LanguageTest {
         wrongAt(1, A + "break o when possible |[a rides];");
         wrongAt(1, A + "break o when follows a rides |a rides;");
         wrongAt(1, A + "break o when follows a rides from a |;");
+        wrongAt(1, A + "break o when follows a rides |;");
+        wrongAt(1, A + "break o when follows a |;");
+        wrongAt(1, A + "break o when follows |;");
+        wrongAt(1, A + "break o when follows |from a rides;");
         wrongAt(1, A + "break o when stands |;");
         wrongAt(1, A + "break o when (day |= 1);");
         wrongAt(1, A + "break o when [day = 1|);");
@@ -140,6 +144,7 @@ public final class LanguageTest {
 
     private void names() {
         wrongAt(2, "family a; family |a;");
+        differentNames();
         wrongAt(2, A + "oath |o a rides;");
         wrongAt(2, A + "promise |o if a rides then a rides;");
         wrongAt(2, A + "pact |o either a rides or a rides;");
@@ -162,6 +167,27 @@ public final class LanguageTest {
         wrongAt(3, A + "break o when follows a rides from |b rides;");
         wrongAt(3, A + "break o when stands |p; oath p a rides;");
         right(A + "oath p a rides; break o when stands p;");
+    }
+
+    /** Two names are the same only if all of their bytes are. */
+    private void differentNames() {
+        String signs = "abcdefghijklmnopqrstuvwxyz0123456789";
+        FeudBook book = new FeudBook();
+        for (int place = 0; place < 10; place++) {
+            for (int left = 0; left < (place == 0 ? 26 : 36); left++) {
+                for (int right = 0; right < (place == 0 ? 26 : 36); right++) {
+                    String ahead = "kz0a9kz0a9".substring(0, place);
+                    String behind = "z9a0kz9a0k".substring(place + 1);
+                    String first = "family " + ahead + signs.charAt(left) + behind;
+                    String second = "; family " + ahead + signs.charAt(right) + behind + ";";
+                    check.same(first + second, Check.teach(book, first + second), left == right ? 20026 : -1);
+                }
+            }
+        }
+        for (int length = 1; length < 10; length++) {
+            right("family " + "aaaaaaaaaa".substring(length) + "; family aaaaaaaaaa;");
+            right("family a" + "0000000000".substring(length) + "; family a" + "0000000000".substring(length + 1) + ";");
+        }
     }
 
     /** As many families, statements and orders as there may be. */
@@ -226,6 +252,10 @@ public final class LanguageTest {
         right(A + "break o when not[not[-(-min(1,2))=1]];");
         wrongAt(1, A + "break o when not[not[-(-(min|(1,2)))=1]];");
         wrongAt(1, A + "break o when " + times("max(", 8) + "max|(1,2),2),2);");
+        right(A + "break o when max(1,(((((((2))))))))=2 and max((((((((1))))))),2)=2;");
+        wrongAt(1, A + "break o when max(1,(((((((|(2)))))))))=2;");
+        wrongAt(1, A + "break o when max((((((((|(1)))))))),2)=2;");
+        wrongAt(1, A + "break o when max(1,-------|-2)=2;");
         // The depth is less again behind what has ended, and a sign between two values adds none.
         right(A + "break o when " + times("-", 8) + "1" + times("-1", 20) + "=" + times("-", 8) + "1 and "
                 + times("not ", 8) + "1=1 or " + times("[", 8) + "1=1" + times("]", 8) + ";");
