@@ -1002,22 +1002,22 @@ public final class FeudBook {
             statements = other.statements;
             orders = other.orders;
             codeLength = other.codeLength;
-            copy(other.kinds, kinds);
-            copy(other.firsts, firsts);
-            copy(other.seconds, seconds);
-            copy(other.lefts, lefts);
-            copy(other.rights, rights);
-            copy(other.verbs, verbs);
-            copy(other.targets, targets);
-            copy(other.codeStarts, codeStarts);
-            copy(other.codeEnds, codeEnds);
-            copy(other.operations, operations);
-            copy(other.firstNumbers, firstNumbers);
-            copy(other.secondNumbers, secondNumbers);
+            copy(other.kinds, kinds, statements);
+            copy(other.firsts, firsts, statements);
+            copy(other.seconds, seconds, statements);
+            copy(other.lefts, lefts, statements);
+            copy(other.rights, rights, statements);
+            copy(other.verbs, verbs, orders);
+            copy(other.targets, targets, orders);
+            copy(other.codeStarts, codeStarts, orders);
+            copy(other.codeEnds, codeEnds, orders);
+            copy(other.operations, operations, codeLength);
+            copy(other.firstNumbers, firstNumbers, codeLength);
+            copy(other.secondNumbers, secondNumbers, codeLength);
         }
 
-        private static void copy(int[] source, int[] target) {
-            for (int i = 0; i < source.length && i < target.length; i++) {
+        private static void copy(int[] source, int[] target, int count) {
+            for (int i = 0; i < count && i < source.length && i < target.length; i++) {
                 target[i] = source[i];
             }
         }
@@ -1113,6 +1113,8 @@ public final class FeudBook {
         private final int[] steps = new int[MAX_CLAIMS];
         /** The claims that follow from each claim. */
         private final int[] reaches = new int[MAX_CLAIMS];
+        /** How many claims there are. */
+        private int claims;
         private int partCount;
         private int seen = -1;
 
@@ -1153,10 +1155,10 @@ public final class FeudBook {
             return -1;
         }
 
-        private int afterOneStep(int claims) {
+        private int afterOneStep(int reached) {
             int after = 0;
-            for (int claim = 0; claim < steps.length; claim++) {
-                if (has(claims, claim)) {
+            for (int claim = 0; claim < claims && claim < steps.length; claim++) {
+                if (has(reached, claim)) {
                     after |= steps[claim];
                 }
             }
@@ -1168,7 +1170,8 @@ public final class FeudBook {
                 return;
             }
             seen = standing;
-            for (int claim = 0; claim < steps.length; claim++) {
+            claims = 2 * book.families;
+            for (int claim = 0; claim < claims && claim < steps.length; claim++) {
                 steps[claim] = 0;
             }
             for (int statement = 0; statement < book.statements; statement++) {
@@ -1179,7 +1182,7 @@ public final class FeudBook {
             }
             close();
             partCount = 0;
-            for (int claim = 0; claim < 2 * book.families; claim++) {
+            for (int claim = 0; claim < claims; claim++) {
                 if (lowest(together(claim)) == claim) {
                     partCount++;
                 }
@@ -1189,7 +1192,7 @@ public final class FeudBook {
         /** The claims that follow from a claim and from which it follows. */
         private int together(int claim) {
             int part = 0;
-            for (int other = 0; other < reaches.length; other++) {
+            for (int other = 0; other < claims && other < reaches.length; other++) {
                 if (has(reaches[other], claim) && claim >= 0 && claim < reaches.length
                         && has(reaches[claim], other)) {
                     part = with(part, other);
@@ -1205,11 +1208,12 @@ public final class FeudBook {
         }
 
         private void close() {
-            for (int claim = 0; claim < reaches.length && claim < steps.length; claim++) {
+            int count = Math.min(claims, Math.min(steps.length, reaches.length));
+            for (int claim = 0; claim < count; claim++) {
                 reaches[claim] = with(steps[claim], claim);
             }
-            for (int between = 0; between < reaches.length; between++) {
-                for (int from = 0; from < reaches.length; from++) {
+            for (int between = 0; between < count; between++) {
+                for (int from = 0; from < count; from++) {
                     if (has(reaches[from], between)) {
                         reaches[from] |= reaches[between];
                     }
@@ -1250,10 +1254,13 @@ public final class FeudBook {
         void prepare() {
             seen = -1;
             used = 1 << Math.max(book.families - FAMILIES_IN_WORD, 0);
-            for (int place = 0; place < rows.length; place++) {
-                int statement = place / WORDS;
-                int w = place % WORDS;
-                rows[place] = holds(book.left(statement), w) | holds(book.right(statement), w);
+            for (int statement = 0; statement < book.statements; statement++) {
+                for (int w = 0; w < used; w++) {
+                    int place = statement * WORDS + w;
+                    if (place >= 0 && place < rows.length) {
+                        rows[place] = holds(book.left(statement), w) | holds(book.right(statement), w);
+                    }
+                }
             }
         }
 
