@@ -1298,7 +1298,6 @@ public final class FeudBook {
          * fewest do not: these have to be broken for a peace. -1 if more than two.
          */
         int fewestNotHolding(int standing) {
-            look(standing);
             int fewest = 3;
             for (int w = 0; w < used; w++) {
                 fewest = Math.min(fewest, fewestNotHoldingIn(w, standing));

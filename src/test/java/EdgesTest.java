@@ -24,6 +24,7 @@ public final class EdgesTest {
         test.andOrNot();
         test.whatTestsSee();
         test.turnsOfOneDay();
+        test.taughtAgain();
         test.ordersThatChangeNothing();
         test.noFamily();
         test.familiesAlone();
@@ -261,6 +262,22 @@ public final class EdgesTest {
         check.same("by hand", book.passDays(30), 1);
         check.same("by hand", book.ordersCarriedOut(), 1);
         check.same("by hand", book.stands(0), true);
+    }
+
+    /** One object, taught one book of long tests behind the other, right and wrong ones. */
+    private void taughtAgain() {
+        FeudBook book = new FeudBook();
+        for (int n = 0; n < 10; n++) {
+            String sum = "1" + "+1".repeat(100 + n);
+            check.same("again " + n, Check.teach(book, A + "oath p a rides;break o when " + sum + "=" + (101 + n)
+                    + ";break p when " + sum.substring(0, 99) + "=49;"), -1);
+            check.same("again " + n, book.passDays(1), 1);
+            check.same("again " + n, book.stands(0), false);
+            check.same("again " + n, book.stands(1), true);
+            check.same("again " + n, Check.teach(book, A + "break o when " + sum + "=1;#") / 10000, 1);
+            check.same("again " + n, book.stands(0), false);
+            book.breakStatement(1);
+        }
     }
 
     private void ordersThatChangeNothing() {

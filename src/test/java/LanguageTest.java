@@ -172,7 +172,6 @@ public final class LanguageTest {
     /** Two names are the same only if all of their bytes are. */
     private void differentNames() {
         String signs = "abcdefghijklmnopqrstuvwxyz0123456789";
-        FeudBook book = new FeudBook();
         for (int place = 0; place < 10; place++) {
             for (int left = 0; left < (place == 0 ? 26 : 36); left++) {
                 for (int right = 0; right < (place == 0 ? 26 : 36); right++) {
@@ -180,7 +179,8 @@ public final class LanguageTest {
                     String behind = "z9a0kz9a0k".substring(place + 1);
                     String first = "family " + ahead + signs.charAt(left) + behind;
                     String second = "; family " + ahead + signs.charAt(right) + behind + ";";
-                    check.same(first + second, Check.teach(book, first + second), left == right ? 20026 : -1);
+                    check.same(first + second, Check.teach(new FeudBook(), first + second),
+                            left == right ? 20026 : -1);
                 }
             }
         }

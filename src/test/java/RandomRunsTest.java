@@ -1,5 +1,7 @@
 import java.util.ArrayList;
 import java.util.List;
+import java.util.function.Consumer;
+import java.util.function.ToIntFunction;
 
 /** Compares FeudBook with SlowBook on many books, right and wrong ones, made by a fixed row of numbers. */
 public final class RandomRunsTest {
@@ -8,12 +10,20 @@ public final class RandomRunsTest {
             + " break renew when day standing parts peaces possible stands follows from not and min max"
             + " ( ) [ ] ; , + - * / < > = <= >= a b c s0 s1 s2 nobody 7 0 123456 1234567 abcdefghijk A # \t").split(" ");
 
+    /** Nothing is promised of an object behind its 512th call. */
+    private static final int CALLS_OF_ONE = 512;
+
     private final Check check = new Check();
     private long seed;
     private StringBuilder text;
     private int families;
     private int statements;
     private final int[] errors = new int[5];
+    /** What the object of a history was told and did so far, and how many calls these are. */
+    private final List<ToIntFunction<FeudBook>> past = new ArrayList<>();
+    private int pastCalls;
+    private FeudBook current;
+    private int calls;
 
     private int below(int n) {
         seed = seed * 6364136223846793005L + 1442695040888963407L;
@@ -39,46 +49,86 @@ public final class RandomRunsTest {
 
     /** One object: some books one behind the other, the last one looked at through some days. */
     private void history(int n) {
-        FeudBook fast = new FeudBook();
+        past.clear();
+        pastCalls = 0;
+        current = null;
         SlowBook slow = new SlowBook();
         int books = 1 + below(4);
         for (int b = 0; b < books; b++) {
-            String tape = wholeBook();
-            int kind = below(6);
-            if (kind == 1) {
-                tape = tape.substring(0, below(tape.length() + 1));
-            } else if (kind == 2 || kind == 3) {
-                tape = disturbTokens(tape);
-            } else if (kind == 4) {
-                int at = below(tape.length() + 1);
-                tape = tape.substring(0, at) + (char) below(256) + tape.substring(at);
-            }
-            if (tape.length() > 2000) {
-                tape = tape.substring(0, 2000);
-            }
-            Check.feed(fast, tape);
-            check.same("run " + n + " tapeBytes", fast.tapeBytes(), tape.length());
-            int due = slow.teach(tape);
-            errors[due]++;
-            int got = fast.teach();
-            check.same("run " + n + " teach of " + tape, got, due);
-            check.same("run " + n + " errorAt of " + tape, fast.errorAt(), slow.errorAt);
-            check.same("run " + n + " tapeBytes", fast.tapeBytes(), 0);
+            teach("run " + n, someTape(), slow);
         }
-        compare("run " + n, fast, slow);
+        compare("run " + n, slow);
         for (int step = 0; step < 4; step++) {
-            act(n, fast, slow);
-            compare("run " + n + " step " + step, fast, slow);
+            step("run " + n, slow);
+            compare("run " + n + " step " + step, slow);
         }
     }
 
-    private void act(int n, FeudBook fast, SlowBook slow) {
+    /** The object of the history for a call more; made anew if it has had as many as there may be. */
+    private FeudBook fast() {
+        return fast(1);
+    }
+
+    private FeudBook fast(int more) {
+        if (current == null || calls + more > CALLS_OF_ONE) {
+            current = new FeudBook();
+            for (ToIntFunction<FeudBook> act : past) {
+                act.applyAsInt(current);
+            }
+            calls = pastCalls;
+        }
+        calls += more;
+        return current;
+    }
+
+    /** Lets the object do something, now and whenever it is made anew. */
+    private int act(int more, ToIntFunction<FeudBook> act) {
+        int answer = act.applyAsInt(fast(more));
+        past.add(act);
+        pastCalls += more;
+        return answer;
+    }
+
+    private void refused(String call, Consumer<FeudBook> run) {
+        FeudBook one = fast(5);
+        check.throwing(call, IllegalStateException.class, one, () -> run.accept(one));
+    }
+
+    /** A book, often with something wrong. */
+    private String someTape() {
+        String tape = wholeBook();
+        int kind = below(6);
+        if (kind == 1) {
+            tape = tape.substring(0, below(tape.length() + 1));
+        } else if (kind == 2 || kind == 3) {
+            tape = disturbTokens(tape);
+        } else if (kind == 4) {
+            int at = below(tape.length() + 1);
+            tape = tape.substring(0, at) + (char) below(256) + tape.substring(at);
+        }
+        return tape.substring(0, Math.min(tape.length(), 2000));
+    }
+
+    private void teach(String where, String tape, SlowBook slow) {
+        act(3 + (tape.length() + 19) / 20, book -> {
+            Check.feed(book, tape);
+            return 0;
+        });
+        check.same(where + " tapeBytes", fast().tapeBytes(), tape.length());
+        int due = slow.teach(tape);
+        errors[due]++;
+        check.same(where + " teach of " + tape, act(1, FeudBook::teach), due);
+        check.same(where + " errorAt of " + tape, fast().errorAt(), slow.errorAt);
+        check.same(where + " tapeBytes", fast().tapeBytes(), 0);
+    }
+
+    private void step(String where, SlowBook slow) {
         if (below(2) == 0 && !slow.statements.isEmpty()) {
             int s = below(slow.statements.size());
             boolean stood = slow.stands[s];
             slow.stands[s] = !stood;
-            check.same("run " + n + " by hand " + s,
-                    stood ? fast.breakStatement(s) : fast.renewStatement(s), slow.standing());
+            check.same(where + " by hand " + s,
+                    act(1, book -> stood ? book.breakStatement(s) : book.renewStatement(s)), slow.standing());
             return;
         }
         int days = 1 + below(below(8) == 0 ? 30 : 4);
@@ -86,49 +136,47 @@ public final class RandomRunsTest {
         for (int d = 0; d < days; d++) {
             slow.passDay();
         }
-        check.same("run " + n + " standingAfter " + days, fast.standingAfter(days), slow.standing());
-        check.same("run " + n + " peacesAfter " + days, fast.peacesAfter(days),
-                slow.peaces(slow.stands).size());
-        check.same("run " + n + " passDays " + days, fast.passDays(days), slow.carriedOut - before);
+        check.same(where + " standingAfter " + days, fast().standingAfter(days), slow.standing());
+        check.same(where + " peacesAfter " + days, fast().peacesAfter(days), slow.peaces(slow.stands).size());
+        check.same(where + " passDays " + days, act(1, book -> book.passDays(days)), slow.carriedOut - before);
     }
 
-    private void compare(String where, FeudBook fast, SlowBook slow) {
+    private void compare(String where, SlowBook slow) {
         List<boolean[]> peaces = slow.peaces(slow.stands);
-        check.same(where + " families", fast.families(), slow.families.size());
-        check.same(where + " statements", fast.statements(), slow.statements.size());
-        check.same(where + " orders", fast.orders(), slow.orders.size());
-        check.same(where + " days", fast.days(), slow.day);
-        check.same(where + " ordersCarriedOut", fast.ordersCarriedOut(), slow.carriedOut);
-        check.same(where + " standing", fast.standing(), slow.standing());
-        check.same(where + " parts", fast.parts(), slow.parts());
-        check.same(where + " peaces", fast.peaces(), peaces.size());
-        check.same(where + " isPeacePossible", fast.isPeacePossible(), !peaces.isEmpty());
-        check.same(where + " fewestToBreak", fast.fewestToBreak(), slow.fewestToBreak());
-        compareStatements(where, fast, slow, peaces.size());
-        compareClaims(where, fast, slow, peaces.size());
-        comparePeace(where, fast, slow, peaces);
-        compareDays(where, fast, slow);
-        check.same(where + " digest", fast.digest(), digest(slow, peaces));
+        check.same(where + " families", fast().families(), slow.families.size());
+        check.same(where + " statements", fast().statements(), slow.statements.size());
+        check.same(where + " orders", fast().orders(), slow.orders.size());
+        check.same(where + " days", fast().days(), slow.day);
+        check.same(where + " ordersCarriedOut", fast().ordersCarriedOut(), slow.carriedOut);
+        check.same(where + " standing", fast().standing(), slow.standing());
+        check.same(where + " parts", fast().parts(), slow.parts());
+        check.same(where + " peaces", fast().peaces(), peaces.size());
+        check.same(where + " isPeacePossible", fast().isPeacePossible(), !peaces.isEmpty());
+        check.same(where + " fewestToBreak", fast().fewestToBreak(), slow.fewestToBreak());
+        compareStatements(where, slow, peaces.size());
+        compareClaims(where, slow, peaces.size());
+        comparePeace(where, slow, peaces);
+        compareDays(where, slow);
+        check.same(where + " digest", fast().digest(), digest(slow, peaces));
     }
 
-    private void compareStatements(String where, FeudBook fast, SlowBook slow, int peaces) {
+    private void compareStatements(String where, SlowBook slow, int peaces) {
         for (int s = 0; s < slow.statements.size(); s++) {
             int number = s;
-            check.same(where + " kindOf " + s, fast.kindOf(s), slow.statements.get(s)[0]);
-            check.same(where + " firstClaimOf " + s, fast.firstClaimOf(s), slow.statements.get(s)[1]);
-            check.same(where + " secondClaimOf " + s, fast.secondClaimOf(s), slow.statements.get(s)[2]);
-            check.same(where + " stands " + s, fast.stands(s), slow.stands[s]);
+            check.same(where + " kindOf " + s, fast().kindOf(s), slow.statements.get(s)[0]);
+            check.same(where + " firstClaimOf " + s, fast().firstClaimOf(s), slow.statements.get(s)[1]);
+            check.same(where + " secondClaimOf " + s, fast().secondClaimOf(s), slow.statements.get(s)[2]);
+            check.same(where + " stands " + s, fast().stands(s), slow.stands[s]);
             if (slow.stands[s]) {
-                check.same(where + " isNeedless " + s, fast.isNeedless(s),
+                check.same(where + " isNeedless " + s, fast().isNeedless(s),
                         slow.peaces(slow.without(s)).size() == peaces);
             } else {
-                check.throwing(where + " isNeedless " + s, IllegalStateException.class, fast,
-                        () -> fast.isNeedless(number));
+                refused(where + " isNeedless " + s, one -> one.isNeedless(number));
             }
         }
     }
 
-    private void compareClaims(String where, FeudBook fast, SlowBook slow, int peaces) {
+    private void compareClaims(String where, SlowBook slow, int peaces) {
         for (int c = 0; c < 2 * slow.families.size(); c++) {
             int claim = c;
             int reached = 0;
@@ -136,59 +184,56 @@ public final class RandomRunsTest {
                 int other = d;
                 int between = slow.between(d, c);
                 reached += between >= 0 ? 1 : 0;
-                check.same(where + " follows " + d + " from " + c, fast.follows(d, c), between >= 0);
+                check.same(where + " follows " + d + " from " + c, fast().follows(d, c), between >= 0);
                 if (between >= 0) {
                     check.same(where + " between " + d + " from " + c,
-                            fast.fewestStatementsBetween(d, c), between);
+                            fast().fewestStatementsBetween(d, c), between);
                 } else {
-                    check.throwing(where + " between " + d + " from " + c,
-                            IllegalStateException.class, fast,
-                            () -> fast.fewestStatementsBetween(other, claim));
+                    refused(where + " between " + d + " from " + c, one -> one.fewestStatementsBetween(other, claim));
                 }
             }
             int with = slow.peacesWith(c, slow.stands);
-            check.same(where + " whatFollowsFrom " + c, fast.whatFollowsFrom(c), reached);
-            check.same(where + " partOf " + c, fast.partOf(c), slow.part(c).get(0));
-            check.same(where + " partSize " + c, fast.partSize(c), slow.part(c).size());
-            check.same(where + " peacesWith " + c, fast.peacesWith(c), with);
-            check.same(where + " isPossible " + c, fast.isPossible(c), with > 0);
+            check.same(where + " whatFollowsFrom " + c, fast().whatFollowsFrom(c), reached);
+            check.same(where + " partOf " + c, fast().partOf(c), slow.part(c).get(0));
+            check.same(where + " partSize " + c, fast().partSize(c), slow.part(c).size());
+            check.same(where + " peacesWith " + c, fast().peacesWith(c), with);
+            check.same(where + " isPossible " + c, fast().isPossible(c), with > 0);
             if (peaces > 0) {
-                check.same(where + " isSettled " + c, fast.isSettled(c), with == peaces);
+                check.same(where + " isSettled " + c, fast().isSettled(c), with == peaces);
             } else {
-                check.throwing(where + " isSettled " + c, IllegalStateException.class, fast,
-                        () -> fast.isSettled(claim));
+                refused(where + " isSettled " + c, one -> one.isSettled(claim));
             }
         }
     }
 
-    private void comparePeace(String where, FeudBook fast, SlowBook slow, List<boolean[]> peaces) {
+    private void comparePeace(String where, SlowBook slow, List<boolean[]> peaces) {
         if (peaces.isEmpty()) {
             int blamed = 0;
             while (!slow.part(2 * blamed).contains(2 * blamed + 1)) {
                 blamed++;
             }
-            check.same(where + " blamedFamily", fast.blamedFamily(), blamed);
-            check.throwing(where + " ridersInPeace", IllegalStateException.class, fast, fast::ridersInPeace);
-            check.throwing(where + " mostTellingOath", IllegalStateException.class, fast, fast::mostTellingOath);
-            check.sameDouble(where + " meanRiders", fast.meanRiders(), 0.0);
+            check.same(where + " blamedFamily", fast().blamedFamily(), blamed);
+            refused(where + " ridersInPeace", FeudBook::ridersInPeace);
+            refused(where + " mostTellingOath", FeudBook::mostTellingOath);
+            check.sameDouble(where + " meanRiders", fast().meanRiders(), 0.0);
             return;
         }
-        check.throwing(where + " blamedFamily", IllegalStateException.class, fast, fast::blamedFamily);
+        refused(where + " blamedFamily", FeudBook::blamedFamily);
         int riders = 0;
         for (int f = 0; f < slow.families.size(); f++) {
             riders += peaces.get(0)[f] ? 1 : 0;
-            check.same(where + " ridesInPeace " + f, fast.ridesInPeace(f), peaces.get(0)[f]);
+            check.same(where + " ridesInPeace " + f, fast().ridesInPeace(f), peaces.get(0)[f]);
         }
-        check.same(where + " ridersInPeace", fast.ridersInPeace(), riders);
+        check.same(where + " ridersInPeace", fast().ridersInPeace(), riders);
         long all = 0;
         for (boolean[] peace : peaces) {
             for (boolean rides : peace) {
                 all += rides ? 1 : 0;
             }
         }
-        check.sameDouble(where + " meanRiders", fast.meanRiders(), (double) all / peaces.size());
+        check.sameDouble(where + " meanRiders", fast().meanRiders(), (double) all / peaces.size());
         if (slow.families.isEmpty()) {
-            check.throwing(where + " mostTellingOath", IllegalStateException.class, fast, fast::mostTellingOath);
+            refused(where + " mostTellingOath", FeudBook::mostTellingOath);
             return;
         }
         int best = -1;
@@ -198,10 +243,10 @@ public final class RandomRunsTest {
                 best = c;
             }
         }
-        check.same(where + " mostTellingOath", fast.mostTellingOath(), best);
+        check.same(where + " mostTellingOath", fast().mostTellingOath(), best);
     }
 
-    private void compareDays(String where, FeudBook fast, SlowBook slow) {
+    private void compareDays(String where, SlowBook slow) {
         SlowBook later = slow.copy();
         int until = -1;
         for (int days = 0; days <= 30 && until < 0; days++) {
@@ -210,7 +255,7 @@ public final class RandomRunsTest {
             }
             later.passDay();
         }
-        check.same(where + " daysUntilPeace", fast.daysUntilPeace(), until);
+        check.same(where + " daysUntilPeace", fast().daysUntilPeace(), until);
     }
 
     private static long digest(SlowBook slow, List<boolean[]> peaces) {

@@ -278,13 +278,14 @@ public final class RefusedTest {
 
     private void questions(Supplier<FeudBook> make) {
         FeudBook book = make.get();
+        int error = book.errorAt();
         for (Consumer<FeudBook> goOn : waysToGoOn) {
             List<String> due = Check.look(() -> goneOn(make.get(), goOn));
             for (Check.Question question : Check.questions(book.families(), book.statements())) {
                 Supplier<FeudBook> asked = () -> {
                     FeudBook one = make.get();
                     question.answer(one);
-                    check.same("errorAt behind " + question.call, one.errorAt(), book.errorAt());
+                    check.same("errorAt behind " + question.call, one.errorAt(), error);
                     return goneOn(one, goOn);
                 };
                 check.same("behind " + question.call, Check.look(asked), due);
